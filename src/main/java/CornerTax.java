@@ -1031,10 +1031,12 @@ public final class CornerTax {
             int best = -1;
             int most = 0;
             for (int p = 0; p < POINTS; p++) {
-                int counted = countOf(house, p);
-                if (counted > most) {
-                    most = counted;
-                    best = p;
+                if (town.shapeAt(house, p) != NO_CORNER) {
+                    int counted = town.countIfSeen(house, p, seenFrom(p));
+                    if (counted > most) {
+                        most = counted;
+                        best = p;
+                    }
                 }
             }
             return best;
@@ -1179,44 +1181,45 @@ public final class CornerTax {
         /** How many items came to the town, or -1 less the place of the fault. */
         int perform() {
             before.become(town);
-            int items = takeItems();
-            if (items < 0) {
-                town.become(before);
-            }
-            return items;
-        }
-
-        private int takeItems() {
             end = 0;
             advance();
+            int items = 0;
             // An item takes a byte at least, so no more of them than bytes can stand here.
-            for (int items = 1; items <= MOST_BYTES; items++) {
-                if (!takesItem() || token != END && token != SIGN) {
-                    return -1 - start;
-                }
+            while (items < MOST_BYTES && takesItem()) {
+                items++;
                 if (token == END) {
                     return items;
                 }
+                if (token != SIGN) {
+                    break;
+                }
                 advance();
             }
+            town.become(before);
             return -1 - start;
         }
 
-        /** Each of these stops at the token that can't stand there, if it answers false. */
+        /** This and what it asks stop at the token that can't stand there, if they answer false. */
         private boolean takesItem() {
             if (token != WORD) {
                 return false;
             }
+            if (isWord("rich")) {
+                return takesWealth();
+            }
             int v = plainSquare();
-            if (v >= 0) {
-                advance();
-                return takesSquares(v);
+            if (v < 0) {
+                int kind = kindNamed();
+                if (kind < 0 || !takesHouse(kind)) {
+                    return false;
+                }
+                if (token != WORD || !isWord("on")) {
+                    return true;
+                }
+                v = FIRST_HOUSE + town.built - 1;
             }
-            int kind = kindNamed();
-            if (kind >= 0) {
-                return takesHouse(kind);
-            }
-            return isWord("rich") && takesWealth();
+            advance();
+            return takesSquares(v);
         }
 
         private boolean takesSquares(int v) {
@@ -1251,13 +1254,9 @@ public final class CornerTax {
             if (!isNumberWithin(1, MOST_RATE)) {
                 return false;
             }
-            int house = town.build(kind, value);
+            town.build(kind, value);
             advance();
-            if (token != WORD || !isWord("on")) {
-                return true;
-            }
-            advance();
-            return takesSquares(FIRST_HOUSE + house);
+            return true;
         }
 
         private boolean takesWealth() {
