@@ -235,18 +235,21 @@ public final class PromiseTest {
     /** Every line of an empty town with one tree anywhere, by times instead of steps. */
     private static void promise11Lines() {
         for (int s = 0; s < 64; s++) {
-            CornerTax tax = new CornerTax();
-            tax.square(s, 1);
             for (int tree = 0; tree < 64; tree++) {
                 if (tree != s) {
-                    tax.square(tree, 3);
-                    for (int p = 0; p <= 80; p++) {
-                        boolean free = !Model.meets(s, p, tree / 8, tree % 8);
-                        Due.is("11 from " + s + " to " + p + " past " + tree, free ? 1 : 0, tax.sees(s, p));
-                    }
-                    tax.square(tree, 0);
+                    linesPast(s, tree);
                 }
             }
+        }
+    }
+
+    private static void linesPast(int s, int tree) {
+        CornerTax tax = new CornerTax();
+        tax.square(s, 1);
+        tax.square(tree, 3);
+        for (int p = 0; p <= 80; p++) {
+            boolean free = !Model.meets(s, p, tree / 8, tree % 8);
+            Due.is("11 from " + s + " to " + p + " past " + tree, free ? 1 : 0, tax.sees(s, p));
         }
     }
 

@@ -8,8 +8,9 @@ import java.util.Random;
 
 /** Runs of calls by chance (always the same ones), each answer beside the model's. */
 public final class RandomTest {
-    private static final int RUNS = 600;
-    private static final int CALLS = 200;
+    private static final int RUNS = 900;
+    // An object is good for 512 calls: what the last text and the look around at the end take is left free.
+    private static final int CALLS = 512 - 122 - 72;
 
     private final Random random;
     private final int run;
@@ -37,7 +38,7 @@ public final class RandomTest {
 
     private void play(List<Method> methods) throws Exception {
         settle();
-        for (int i = 0; i < CALLS && Due.wrong() == 0; i++) {
+        while (calls.size() < CALLS && Due.wrong() == 0) {
             if (random.nextInt(12) == 0) {
                 tell();
             } else {
@@ -47,6 +48,7 @@ public final class RandomTest {
         }
         for (int s = 0; s < 64; s++) call("at", s);
         for (int f = -1; f < 7; f++) call("status", f);
+        Due.holds("an object's calls: " + calls.size(), calls.size() <= 512);
     }
 
     /** A town to begin with, crowded more or less. */
@@ -123,7 +125,7 @@ public final class RandomTest {
         if (house >= 0 && house < 6 && random.nextInt(4) > 0) {
             for (int k = 0; k < 81; k++) {
                 int p = Math.floorMod(point + k, 81);
-                if (p < 81 && house < tax.count(0) && tax.corner(house, p) > 0) return new Object[] {house, p};
+                if (house < model.count(0) && model.corner(house, p) > 0) return new Object[] {house, p};
             }
         }
         return new Object[] {house, point};
@@ -133,7 +135,7 @@ public final class RandomTest {
         int square = near(0, 63);
         for (int k = 0; k < 64 && random.nextInt(50) > 0; k++) {
             int s = Math.floorMod(square + k, 64);
-            if (tax.at(s) == 1) return s;
+            if (model.at(s) == 1) return s;
         }
         return square;
     }
