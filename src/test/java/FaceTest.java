@@ -15,6 +15,7 @@ import java.util.stream.Collectors;
 public final class FaceTest {
     public static void main(String[] args) throws Exception {
         faceIsTheDocuments();
+        headingsAreTheDocuments();
         membersAreHidden();
         sizesAreSmall();
         sourceKeepsToTheLanguage(plainSource());
@@ -42,6 +43,26 @@ public final class FaceTest {
         Due.holds("public constructor", Modifier.isPublic(makers[0].getModifiers()) && makers[0].getParameterCount() == 0);
         int modifiers = CornerTax.class.getModifiers();
         Due.holds("public and final", Modifier.isPublic(modifiers) && Modifier.isFinal(modifiers));
+    }
+
+    /** Each "Ahead of the calls .." of the document's Terms: these calls, in this order, behind this heading. */
+    private static void headingsAreTheDocuments() throws Exception {
+        String doc = Files.readString(Path.of("../shared/DOC.md"));
+        String source = Files.readString(Path.of("src/main/java/CornerTax.java"));
+        Matcher said = Pattern.compile("Ahead of the calls (.*) the interface says: (---- [^.\n]+)\\.").matcher(doc);
+        int headings = 0;
+        while (said.find()) {
+            headings++;
+            String want = said.group(1).replaceAll("[`,]", "");
+            int from = source.indexOf("    // " + said.group(2) + "\n");
+            Due.holds("the class has the heading " + said.group(2), from >= 0);
+            int to = source.indexOf("    // ----", from + 1);
+            Matcher call = Pattern.compile("\n    public \\w+ (\\w+)\\(").matcher(source.substring(Math.max(0, from), Math.max(0, to)));
+            StringBuilder got = new StringBuilder();
+            while (call.find()) got.append(got.isEmpty() ? "" : " ").append(call.group(1));
+            Due.holds(said.group(2) + ": " + want + ", found " + got, want.contentEquals(got));
+        }
+        Due.is("headings in the document", 7, headings);
     }
 
     private static Set<String> publicNames() {
